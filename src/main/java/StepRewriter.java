@@ -78,7 +78,6 @@ public final class StepRewriter {
         for (int m = 0; m < file.count; m++) {
             int size = layout.plan(file.method(m), prices, true);
             if (size > MOST_WRITTEN) {
-                rewritten.empty();
                 return NAMED - m;
             }
             layout.write(file.method(m), rewritten, rewritten.method(m));

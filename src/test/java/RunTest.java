@@ -252,6 +252,15 @@ public final class RunTest {
         run("none thrown", x, told(0, 0, 0, 100), ENDED, 50, 6, 6);
         run("thrown at FROM", x, told(0, -1, 0, 100), ENDED, 3, 7, 3);
         run("thrown at TO", x, told(0, 0, -1, 100), THROWN, 3, 6, 4);
+        // 0: 16 1, 2: 21 0, 4: 108, 5: 172, 6: 172; the 108 stands just where TO is
+        int[] divides = {16, 1, 21, 0, 108, 172, 172};
+        x = Files.rewritten(Files.file(Files.method(1, 1, divides, Files.handler(0, 4, 6, 1))));
+        run("thrown at TO without payment", x, told(0, 0, 0, 100), THROWN, 1, 4, 3);
+        x = Files.rewritten(Files.file(Files.method(1, 1, divides, Files.handler(4, 5, 6, 1))));
+        run("thrown at FROM without payment", x, told(0, 0, 0, 100), ENDED, 1, 5, 4);
+        int[] full = Files.join(Files.times(20, 16, 9), Files.code(191, 172));
+        x = Files.rewritten(Files.file(Files.method(0, 0, full, Files.handler(0, 41, 41, 0))));
+        run("thrown with twenty on the stack", x, told(0, 0, 0, 100), ENDED, 4, 22, 22);
     }
 
     private static void limits() {
