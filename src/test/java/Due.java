@@ -1,18 +1,28 @@
 /** Counts the answers that are not the ones that are due, and prints each of them. */
 final class Due {
     private final String name;
+    private String sentence = "";
     private int wrong = 0;
     private int asked = 0;
+    private int askedOfSentence = 1;
 
     Due(String name) {
         this.name = name;
     }
 
+    /** What is asked from here on is about this sentence of the document. */
+    void sentence(String words) {
+        endSentence();
+        sentence = ", \"" + words + "\"";
+        askedOfSentence = 0;
+    }
+
     void is(String call, long got, long want) {
         asked++;
+        askedOfSentence++;
         if (got != want) {
             wrong++;
-            System.out.println(name + ": " + call + " answered " + got + ", due is " + want);
+            System.out.println(name + sentence + ": " + call + " answered " + got + ", due is " + want);
         }
     }
 
@@ -21,9 +31,18 @@ final class Due {
     }
 
     void end() {
+        endSentence();
         System.out.println(name + ": " + asked + " answers, " + wrong + " not as due");
         if (wrong != 0) {
             System.exit(1);
+        }
+    }
+
+    /** A sentence that nothing was asked about has no test. */
+    private void endSentence() {
+        if (askedOfSentence == 0) {
+            wrong++;
+            System.out.println(name + sentence + ": nothing was asked about it");
         }
     }
 }
