@@ -26,6 +26,7 @@ public final class RefusedTest {
         order();
         nothingChanges();
         unwriteKeeps();
+        unwriteAgain();
         unwriteState();
         clears();
         DUE.end();
@@ -348,6 +349,30 @@ public final class RefusedTest {
         x.price(167, 4);
         DUE.is("SUM of the FILE now", x.block(0, 0, 1), 4);
         DUE.is("SUM as REWRITTEN", x.byteAt(0, true, 4), 1);
+    }
+
+    private static void unwriteAgain() {
+        DUE.sentence("What is REWRITTEN becomes a FILE again: each time");
+        // 0: 168 to 5, 3: 191, 4: 191, 5: 16 5, 7: 172, which becomes a byte shorter
+        int[] longer = Files.method(0, 0, Files.code(168, 0, 5, 191, 191, 16, 5, 172));
+        StepRewriter x = Files.rewritten(Files.file(longer, longer));
+        for (int turn = 0; turn < 4; turn++) {
+            DUE.is("bytes", x.unwrite(), 14);
+            for (int m = 0; m < 2; m++) {
+                DUE.is("bytes of METHOD " + m, x.told(m, false, 0), 7);
+                DUE.is("its first", x.byteAt(m, false, 0), 167);
+                DUE.is("its way", x.byteAt(m, false, 1), 4);
+                DUE.is("its last", x.byteAt(m, false, 6), 172);
+                DUE.is("its BLOCKS", x.told(m, false, 1), 4);
+                DUE.is("its depth", x.told(m, false, 5), 1);
+            }
+            DUE.is("rewrite", turn == 2 ? x.rewrite() : 54, 54);
+        }
+        DUE.is("another FILE", Files.load(x, file()), 2);
+        DUE.is("another FILE is REWRITTEN", x.rewrite(), 27);
+        Look before = Look.at(x);
+        DUE.is("another FILE is unwritten", x.unwrite(), 11);
+        DUE.is("all is as it was", Look.at(x).differs(before), 0);
     }
 
     private static void unwriteState() {

@@ -12,6 +12,8 @@ public final class RunEdgeTest {
 
     public static void main(String[] args) {
         signs();
+        tops();
+        fullStack();
         wrapAround();
         byZero();
         branches();
@@ -67,6 +69,46 @@ public final class RunEdgeTest {
             32766, 32767}) {
             ends("17 of " + v, 0, 0, v, 17, v >> 8 & 255, v & 255, 172);
         }
+    }
+
+    private static void tops() {
+        DUE.sentence("54 n: LOCAL n becomes the top, which goes. 87 the top goes. 89 it is pushed once more");
+        ends("54", 7, 5, 7, 21, 0, 21, 1, 54, 2, 172);
+        ends("what it became", 7, 5, 5, 21, 0, 21, 1, 54, 2, 21, 2, 172);
+        ends("87", 7, 5, 7, 21, 0, 21, 1, 87, 172);
+        ends("89", 7, 5, 7 + 5 + 5, 21, 0, 21, 1, 89, 96, 96, 172);
+        ends("the lower one first", 7, 5, 2, 21, 0, 21, 1, 100, 172);
+        ends("172 with others below", 7, 5, 5, 21, 0, 21, 1, 172);
+    }
+
+    private static void fullStack() {
+        DUE.sentence("would have more than 20 behind it: 20 are held, in every run and every METHOD");
+        // 0 to 18 and x are pushed, and added
+        int[] code = {};
+        for (int i = 0; i < 19; i++) {
+            code = Files.join(code, Files.code(16, i));
+        }
+        code = Files.join(code, Files.code(21, 0), Files.times(19, 96));
+        int sum = 18 * 19 / 2;
+        StepRewriter x = Files.rewritten(method(Files.join(code, Files.code(172))));
+        run("twenty", x, told(0, 5, 0, 100), ENDED, sum + 5, 40, 40);
+        // STOPPED, and thrown, with twenty on the stack, and then from the first again
+        int[] pushes = Files.first(code, 40);
+        int[] adds = Files.times(19, 96);
+        x = Files.rewritten(method(Files.join(pushes, Files.code(167, 2), adds, Files.code(172))));
+        for (int turn = 0; turn < 3; turn++) {
+            run("STOPPED with twenty", x, told(0, 5, 0, 40), STOPPED, 0, 21, 21);
+            run("twenty again", x, told(0, 6, 0, 41), ENDED, sum + 6, 41, 41);
+        }
+        int[] thrower = Files.join(pushes, Files.code(191), Files.times(19, 89), adds, Files.code(172));
+        x = Files.rewritten(Files.file(Files.method(1, 1, thrower, Files.handler(40, 41, 41, 4))));
+        run("KIND 4 alone, and twenty of it", x, told(0, 5, 0, 100), ENDED, 80, 21 + 39, 21 + 39);
+        // the caller has 19 on its stack, and the called one twenty
+        int[] ones = Files.times(19, 16, 1);
+        int[] caller = Files.method(0, 0, Files.join(ones, Files.code(184, 1), adds, Files.code(172)));
+        int[] called = Files.method(0, 1, Files.join(code, Files.code(172)));
+        x = Files.rewritten(Files.file(caller, called));
+        run("twenty in both", x, told(0, 0, 0, 100), ENDED, 19 + sum, 19 + 5 + 20 + 40, 40 + 40);
     }
 
     private static void two(int kind, int x, int y, int answer) {

@@ -22,6 +22,8 @@ public final class WrittenEdgeTest {
         againAndAgain();
         untilNoneDoes();
         handlersMove();
+        greatestLength();
+        rewrittenAnew();
         tooBig();
         firstTooBig();
         unwriteFits();
@@ -363,6 +365,59 @@ public final class WrittenEdgeTest {
                 DUE.is("HANDLER " + k + " in the FILE, " + what, x.handler(0, false, k, what), handlers[k][what]);
             }
             DUE.is("KIND of HANDLER " + k, x.handler(0, true, k, 3), handlers[k][3]);
+        }
+    }
+
+    private static void greatestLength() {
+        DUE.sentence("how many bytes of CODE (2, 1 .. 2000): as REWRITTEN and unwritten");
+        for (int n = 1998; n <= 2000; n++) {
+            // 0: 168 to the last, 3: 0s, three 172s (the third one is AT), the last: 191
+            int[] code = Files.join(Files.code(168, n - 1 >> 8, n - 1 & 255), Files.times(n - 7, 0),
+                Files.code(172, 172, 172, 191));
+            int[] handler = Files.handler(n - 1, n, n - 2, 2);
+            StepRewriter x = Files.loaded(Files.file(Files.method(0, 0, code, handler)));
+            // they begin at 0, 3, the second and the third 172, and the last
+            DUE.is("BLOCKS", x.told(0, false, 1), 5);
+            DUE.is("the last BLOCK", x.block(0, 4, 0), n - 1);
+            DUE.is("rewrite", x.rewrite(), n + 25);
+            DUE.is("its 168, high", x.byteAt(0, true, 6), n + 14 >> 8);
+            DUE.is("its 168, low", x.byteAt(0, true, 7), n + 14 & 255);
+            int[] want = {n + 19, n + 25, n + 13, 2};
+            for (int what = 0; what < 4; what++) {
+                DUE.is("HANDLER's " + what, x.handler(0, true, 0, what), want[what]);
+            }
+            run(x, n);
+            DUE.is("unwrite", x.unwrite(), n);
+            for (int what = 0; what < 4; what++) {
+                DUE.is("HANDLER's " + what + ", unwritten", x.handler(0, false, 0, what), handler[what]);
+            }
+        }
+    }
+
+    private static void run(StepRewriter x, int n) {
+        DUE.is("run of " + n, x.run(0, 0, 0, 2), 2);
+        DUE.is("its KIND", x.answer(), 4);
+        DUE.is("its steps", x.steps(), 2);
+    }
+
+    private static void rewrittenAnew() {
+        DUE.sentence("The FILE is REWRITTEN by the PRICES now");
+        // 0: 16 1, 2: 153 to 129, long by the 203, 4: 167 to 130, that just fits, 130: 0, 131: 191, 132: 172 (AT)
+        int[] code = Files.join(Files.code(16, 1, 153, 127, 167, 126), filler(124), Files.code(0, 191, 172));
+        StepRewriter x = Files.loaded(Files.file(Files.method(1, 1, code, Files.handler(0, 2, 132, 0))));
+        for (int kind : KINDS) {
+            x.price(kind, 0);
+        }
+        for (int turn = 0; turn < 3; turn++) {
+            DUE.is("rewrite", x.rewrite(), code.length + 1 + 3);
+            longs("again", x, 1, 0);
+            DUE.is("BLOCKS", x.told(0, true, 1), 6);
+            DUE.is("HANDLERS", x.told(0, true, 2), 1);
+            x.price(167, turn);
+            DUE.is("SUM now", x.block(0, 1, 1), turn);
+            DUE.is("still the same", x.told(0, true, 0), code.length + 4);
+            DUE.is("unwrite", x.unwrite(), code.length);
+            x.price(167, 0);
         }
     }
 
