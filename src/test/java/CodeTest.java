@@ -2,6 +2,7 @@
 public final class CodeTest {
     private static final int NONE = StepRewriter.NONE, STATE = StepRewriter.STATE, BAD = StepRewriter.BAD;
     private static final Due DUE = new Due("CodeTest");
+    private static final Ask ASK = new Ask(DUE);
 
     public static void main(String[] args) {
         plain();
@@ -23,28 +24,15 @@ public final class CodeTest {
         DUE.end();
     }
 
-    private static int[] method(int... code) {
-        return Files.file(Files.method(2, 3, code));
-    }
-
-    private static void bytes(String what, StepRewriter x, int m, boolean written, int... want) {
-        DUE.is(what + ", bytes", x.told(m, written, 0), want.length);
-        for (int i = 0; i < want.length; i++) {
-            DUE.is(what + ", byte " + i, x.byteAt(m, written, i), want[i] & 255);
-        }
-        DUE.is(what + ", byte -1", x.byteAt(m, written, -1), BAD);
-        DUE.is(what + ", byte at the end", x.byteAt(m, written, want.length), BAD);
-    }
-
     private static void plain() {
-        StepRewriter x = Files.loaded(method(21, 0, 21, 1, 96, 172));
+        StepRewriter x = Files.loaded(Files.alone(21, 0, 21, 1, 96, 172));
         DUE.is("nothing is REWRITTEN yet", x.told(0, true, 0), STATE);
         DUE.is("rewrite", x.rewrite(), 11);
-        bytes("plain", x, 0, true, 202, 0, 0, 0, 4, 21, 0, 21, 1, 96, 172);
-        bytes("plain, FILE", x, 0, false, 21, 0, 21, 1, 96, 172);
+        ASK.bytes("plain", x, 0, true, 202, 0, 0, 0, 4, 21, 0, 21, 1, 96, 172);
+        ASK.bytes("plain, FILE", x, 0, false, 21, 0, 21, 1, 96, 172);
         DUE.is("unwrite", x.unwrite(), 6);
-        bytes("plain, unwritten", x, 0, false, 21, 0, 21, 1, 96, 172);
-        bytes("plain, still REWRITTEN", x, 0, true, 202, 0, 0, 0, 4, 21, 0, 21, 1, 96, 172);
+        ASK.bytes("plain, unwritten", x, 0, false, 21, 0, 21, 1, 96, 172);
+        ASK.bytes("plain, still REWRITTEN", x, 0, true, 202, 0, 0, 0, 4, 21, 0, 21, 1, 96, 172);
         int[] depths = {6, 1, 0, 0, 0, 2};
         int[] writtenDepths = {11, 1, 0, 0, 0, NONE};
         for (int what = 0; what < 6; what++) {
@@ -55,35 +43,35 @@ public final class CodeTest {
 
     private static void makings() {
         // 188 at place 2 and, as a BLOCK's beginning, at place 8
-        int[] file = method(21, 0, 188, 0, 21, 0, 167, 2, 188, 1, 16, 7, 172);
+        int[] file = Files.alone(21, 0, 188, 0, 21, 0, 167, 2, 188, 1, 16, 7, 172);
         StepRewriter x = Files.loaded(file);
         DUE.is("rewrite", x.rewrite(), 13 + 5 + 1 + 5 + 1);
-        bytes("makings", x, 0, true, 202, 0, 0, 0, 4, 21, 0, 203, 188, 0, 21, 0, 167, 2,
+        ASK.bytes("makings", x, 0, true, 202, 0, 0, 0, 4, 21, 0, 203, 188, 0, 21, 0, 167, 2,
             202, 0, 0, 0, 3, 203, 188, 1, 16, 7, 172);
         x.price(188, 0);
         x.price(16, 0);
         x.price(172, 0);
         DUE.is("rewrite with a BLOCK of SUM 0", x.rewrite(), 13 + 5 + 1 + 1);
-        bytes("makings, SUM 0", x, 0, true, 202, 0, 0, 0, 3, 21, 0, 203, 188, 0, 21, 0, 167, 2,
+        ASK.bytes("makings, SUM 0", x, 0, true, 202, 0, 0, 0, 3, 21, 0, 203, 188, 0, 21, 0, 167, 2,
             203, 188, 1, 16, 7, 172);
         DUE.is("unwrite", x.unwrite(), 13);
-        bytes("makings, unwritten", x, 0, false, 21, 0, 188, 0, 21, 0, 167, 2, 188, 1, 16, 7, 172);
+        ASK.bytes("makings, unwritten", x, 0, false, 21, 0, 188, 0, 21, 0, 167, 2, 188, 1, 16, 7, 172);
     }
 
     private static void nothingPaid() {
-        StepRewriter x = Files.loaded(method(21, 0, 154, 4, 167, 252, 16, 1, 172));
+        StepRewriter x = Files.loaded(Files.alone(21, 0, 154, 4, 167, 252, 16, 1, 172));
         for (int kind : new int[] {21, 154, 167, 16, 172}) {
             x.price(kind, 0);
         }
         DUE.is("rewrite of nothing PAID", x.rewrite(), 9);
-        bytes("nothing PAID", x, 0, true, 21, 0, 154, 4, 167, 252, 16, 1, 172);
+        ASK.bytes("nothing PAID", x, 0, true, 21, 0, 154, 4, 167, 252, 16, 1, 172);
         x.price(167, 1);
         DUE.is("rewrite of one BLOCK PAID", x.rewrite(), 14);
-        bytes("one BLOCK PAID", x, 0, true, 21, 0, 154, 9, 202, 0, 0, 0, 1, 167, 247, 16, 1, 172);
+        ASK.bytes("one BLOCK PAID", x, 0, true, 21, 0, 154, 9, 202, 0, 0, 0, 1, 167, 247, 16, 1, 172);
     }
 
     private static void bigSums() {
-        StepRewriter x = Files.loaded(method(Files.join(Files.times(1997, 0), Files.code(16, 1, 172))));
+        StepRewriter x = Files.loaded(Files.alone(Files.join(Files.times(1997, 0), Files.code(16, 1, 172))));
         x.price(0, 1000);
         DUE.is("a SUM of three bytes", x.block(0, 0, 1), 1997002);
         DUE.is("rewrite", x.rewrite(), 2005);
@@ -102,13 +90,13 @@ public final class CodeTest {
     private static void branches() {
         for (int kind = 153; kind <= 158; kind++) {
             int other = kind % 2 == 1 ? kind + 1 : kind - 1;
-            StepRewriter x = Files.loaded(method(branch(kind, 19, 0)));
+            StepRewriter x = Files.loaded(Files.alone(branch(kind, 19, 0)));
             DUE.is("short " + kind, x.rewrite(), 139);
             DUE.is("none is long " + kind, x.told(0, true, 3), 0);
             DUE.is("as it was " + kind, x.byteAt(0, true, 7), kind);
             DUE.is("its way " + kind, x.byteAt(0, true, 8), 124);
 
-            x = Files.loaded(method(branch(kind, 20, 0)));
+            x = Files.loaded(Files.alone(branch(kind, 20, 0)));
             DUE.is("long " + kind, x.rewrite(), 148);
             int[] want = {202, 0, 0, 0, 2, 16, 1, other, 5, 168, 0, 131, 202, 0, 0, 0, 2, 16, 7, 172};
             for (int i = 0; i < want.length; i++) {
@@ -122,26 +110,26 @@ public final class CodeTest {
                 DUE.is("told written " + what, x.told(0, true, what), written[what]);
             }
             DUE.is("unwrite", x.unwrite(), 30);
-            bytes("short again", x, 0, false, branch(kind, 20, 0));
+            ASK.bytes("short again", x, 0, false, branch(kind, 20, 0));
         }
     }
 
     private static void branchEdges() {
-        StepRewriter x = Files.loaded(method(branch(153, 19, 3)));
+        StepRewriter x = Files.loaded(Files.alone(branch(153, 19, 3)));
         DUE.is("a way of 127", x.rewrite(), 142);
         DUE.is("fits", x.byteAt(0, true, 8), 127);
-        x = Files.loaded(method(branch(153, 19, 4)));
+        x = Files.loaded(Files.alone(branch(153, 19, 4)));
         DUE.is("a way of 128", x.rewrite(), 146);
         DUE.is("does not fit", x.byteAt(0, true, 9), 168);
         DUE.is("and is told", x.told(0, true, 3), 1);
     }
 
     private static void jumpsBack() {
-        StepRewriter x = Files.loaded(method(Files.join(Files.times(123, 0), Files.code(167, -123))));
+        StepRewriter x = Files.loaded(Files.alone(Files.join(Files.times(123, 0), Files.code(167, -123))));
         DUE.is("a way of -128", x.rewrite(), 130);
         DUE.is("is 167", x.byteAt(0, true, 128), 167);
         DUE.is("by", x.byteAt(0, true, 129), 128);
-        x = Files.loaded(method(Files.join(Files.times(124, 0), Files.code(167, -124))));
+        x = Files.loaded(Files.alone(Files.join(Files.times(124, 0), Files.code(167, -124))));
         DUE.is("a way of -129", x.rewrite(), 132);
         DUE.is("is 168", x.byteAt(0, true, 129), 168);
         DUE.is("by, high", x.byteAt(0, true, 130), 255);
@@ -151,10 +139,10 @@ public final class CodeTest {
         DUE.is("no long branch", x.told(0, true, 3), 0);
         DUE.is("unwrite", x.unwrite(), 126);
         DUE.is("it is 167 again", x.byteAt(0, false, 124), 167);
-        x = Files.loaded(method(168, 0, 3, 168, 255, 253));
+        x = Files.loaded(Files.alone(168, 0, 3, 168, 255, 253));
         DUE.is("168s that fit", x.told(0, false, 4), 2);
         DUE.is("become 167", x.rewrite(), 14);
-        bytes("167s", x, 0, true, 202, 0, 0, 0, 1, 167, 2, 202, 0, 0, 0, 1, 167, -12);
+        ASK.bytes("167s", x, 0, true, 202, 0, 0, 0, 1, 167, 2, 202, 0, 0, 0, 1, 167, -12);
         DUE.is("none are left", x.told(0, true, 4), 0);
     }
 
@@ -162,8 +150,9 @@ public final class CodeTest {
         // 0: 122 times nothing, 122: 21 0, 124: 153 to 251, 126: 167 to 0, 128: .., 251: 16 5 172. Only the
         // first BLOCK is PAID: 167 does not fit then, and by its third byte the 153 doesn't, either.
         int[] dead = Files.times(123, 87);
-        int[] code = Files.join(Files.times(122, 0), Files.code(21, 0, 153, 127, 167, -126), dead, Files.code(16, 5, 172));
-        StepRewriter x = Files.loaded(method(code));
+        int[] code = Files.join(Files.times(122, 0), Files.code(21, 0, 153, 127, 167, -126), dead,
+            Files.code(16, 5, 172));
+        StepRewriter x = Files.loaded(Files.alone(code));
         for (int kind : new int[] {21, 153, 167, 87, 16, 172}) {
             x.price(kind, 0);
         }
@@ -175,7 +164,7 @@ public final class CodeTest {
             DUE.is("byte " + (129 + i), x.byteAt(0, true, 129 + i), want[i]);
         }
         DUE.is("unwrite", x.unwrite(), code.length);
-        bytes("short again", x, 0, false, code);
+        ASK.bytes("short again", x, 0, false, code);
     }
 
     /** Of a METHOD of 8 bytes, n BLOCKS of 6 and z of 7 bytes when it is REWRITTEN. */
@@ -184,13 +173,13 @@ public final class CodeTest {
     }
 
     private static void tooBig() {
-        StepRewriter x = Files.loaded(method(sized(663, 2)));
+        StepRewriter x = Files.loaded(Files.alone(sized(663, 2)));
         DUE.is("4000 bytes", x.rewrite(), 4000);
         DUE.is("BLOCKS", x.told(0, true, 1), 666);
         DUE.is("last byte", x.byteAt(0, true, 3999), 172);
         DUE.is("no byte more", x.byteAt(0, true, 4000), BAD);
         DUE.is("unwrite", x.unwrite(), 670);
-        x = Files.loaded(method(sized(662, 3)));
+        x = Files.loaded(Files.alone(sized(662, 3)));
         DUE.is("4001 bytes", x.rewrite(), -10);
         int[] small = Files.method(0, 0, Files.code(16, 5, 172));
         int[] big = Files.method(0, 0, sized(662, 3));
@@ -218,13 +207,13 @@ public final class CodeTest {
         int[] b = Files.method(1, 2, Files.code(21, 0, 184, 0, 96, 172), Files.handler(0, 6, 5, 2));
         StepRewriter x = Files.loaded(Files.file(a, b));
         DUE.is("rewrite", x.rewrite(), 8 + 16);
-        bytes("METHOD 0", x, 0, true, 202, 0, 0, 0, 2, 16, 5, 172);
-        bytes("METHOD 1", x, 1, true, 202, 0, 0, 0, 7, 21, 0, 184, 0, 96, 202, 0, 0, 0, 1, 172);
+        ASK.bytes("METHOD 0", x, 0, true, 202, 0, 0, 0, 2, 16, 5, 172);
+        ASK.bytes("METHOD 1", x, 1, true, 202, 0, 0, 0, 7, 21, 0, 184, 0, 96, 202, 0, 0, 0, 1, 172);
         DUE.is("BLOCKS of METHOD 1", x.told(1, false, 1), 2);
         DUE.is("HANDLERS of METHOD 0", x.told(0, true, 2), 0);
         DUE.is("HANDLERS of METHOD 1", x.told(1, true, 2), 1);
         DUE.is("unwrite", x.unwrite(), 9);
-        bytes("METHOD 1, unwritten", x, 1, false, 21, 0, 184, 0, 96, 172);
+        ASK.bytes("METHOD 1, unwritten", x, 1, false, 21, 0, 184, 0, 96, 172);
         int[] handler = {0, 6, 5, 2};
         for (int what = 0; what < 4; what++) {
             DUE.is("its HANDLER " + what, x.handler(1, false, 0, what), handler[what]);
@@ -309,14 +298,14 @@ public final class CodeTest {
     private static void unwriteShortens() {
         // 0: 168 to 131, 3: 128 times nothing, 131: 168 to 0: both are 128 or more while one is long
         int[] code = Files.join(Files.code(168, 0, 131), Files.times(128, 0), Files.code(168, 255, 256 - 131));
-        StepRewriter x = Files.rewritten(method(code));
+        StepRewriter x = Files.rewritten(Files.alone(code));
         DUE.is("unwrite of what does not fit", x.unwrite(), 134);
-        bytes("they stay long", x, 0, false, code);
+        ASK.bytes("they stay long", x, 0, false, code);
         DUE.is("168s", x.told(0, false, 4), 2);
         code = Files.join(Files.code(168, 0, 128), Files.times(125, 0), Files.code(168, 255, 128));
-        x = Files.rewritten(method(code));
+        x = Files.rewritten(Files.alone(code));
         DUE.is("unwrite of what fits", x.unwrite(), 129);
-        bytes("they are short", x, 0, false,
+        ASK.bytes("they are short", x, 0, false,
             Files.join(Files.code(167, 127), Files.times(125, 0), Files.code(167, -127)));
         DUE.is("no 168s", x.told(0, false, 4), 0);
         DUE.is("168s of what is REWRITTEN stay", x.told(0, true, 4), 2);
@@ -329,17 +318,17 @@ public final class CodeTest {
         // The FILE itself has a 154 over a 168; they are two instructions, and no long 153
         int[] far = Files.times(200, 0);
         int[] code = Files.join(Files.code(21, 0, 154, 5, 168, 0, 206, 16, 1, 172), far, Files.code(16, 2, 172));
-        StepRewriter x = Files.loaded(method(code));
+        StepRewriter x = Files.loaded(Files.alone(code));
         x.price(168, 0);
         x.rewrite();
         DUE.is("no long 153", x.told(0, true, 3), 0);
         DUE.is("one 168", x.told(0, true, 4), 1);
         DUE.is("unwrite", x.unwrite(), code.length);
-        bytes("as it was", x, 0, false, code);
+        ASK.bytes("as it was", x, 0, false, code);
     }
 
     private static void unwriteKeeps() {
-        StepRewriter x = Files.rewritten(method(21, 0, 168, 0, 3, 172));
+        StepRewriter x = Files.rewritten(Files.alone(21, 0, 168, 0, 3, 172));
         x.run(0, 8, 0, 100);
         x.feed(77, 1);
         DUE.is("unwrite", x.unwrite(), 5);
@@ -350,7 +339,7 @@ public final class CodeTest {
         DUE.is("and ends with", x.answer(), 9);
         DUE.is("rewrite of what was unwritten", x.rewrite(), 15);
         DUE.is("load drops what is REWRITTEN", Files.load(x, Files.code(1)), -10);
-        Files.load(x, method(16, 1, 172));
+        Files.load(x, Files.alone(16, 1, 172));
         DUE.is("nothing to unwrite", x.unwrite(), STATE);
     }
 }

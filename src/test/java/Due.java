@@ -10,11 +10,17 @@ final class Due {
         this.name = name;
     }
 
-    /** What is asked from here on is about this sentence of the document. */
+    /** What is asked from here on is about this sentence, by the document's own words. */
     void sentence(String words) {
         endSentence();
         sentence = ", \"" + words + "\"";
         askedOfSentence = 0;
+    }
+
+    /** The same of a part of what the sentence tells, or of what follows from it. */
+    void sentence(String words, String part) {
+        sentence(words);
+        sentence += " (" + part + ")";
     }
 
     void is(String call, long got, long want) {

@@ -314,7 +314,8 @@ public final class FileTest {
             DUE.is("price 1001 of " + kind, x.price(kind, 1001), BAD);
             DUE.is("price of " + kind + " stayed", x.price(kind, first), 0);
         }
-        for (int kind : new int[] {202, 203, 1, 15, 152, 159, 166, 169, 255, 256, 256 + 16, -1, -240, Integer.MIN_VALUE}) {
+        for (int kind : new int[] {202, 203, 1, 15, 152, 159, 166, 169, 255, 256, 256 + 16, -1, -240,
+            Integer.MIN_VALUE}) {
             DUE.is("price of " + kind, x.price(kind, 1), BAD);
         }
         x = Files.rewritten(FIVE);

@@ -35,6 +35,11 @@ final class Files {
         return join(code(methods.length), join(methods));
     }
 
+    /** A FILE of one METHOD with two PARAMETERS, three LOCALS and no HANDLERS. */
+    static int[] alone(int... code) {
+        return file(method(2, 3, code));
+    }
+
     static int[] join(int[]... parts) {
         ByteArrayOutputStream out = new ByteArrayOutputStream();
         for (int[] part : parts) {

@@ -180,7 +180,7 @@ public final class FormEdgeTest {
     }
 
     private static void localThere() {
-        DUE.sentence("its LOCAL there");
+        DUE.sentence("its LOCAL, METHOD, ARRAY there (the instruction)", "LOCAL");
         for (int l : new int[] {0, 1, 2, 19, 20}) {
             for (int n : new int[] {l - 2, l - 1, l, l + 1, 127, 128, 255}) {
                 for (int kind : new int[] {21, 54}) {
@@ -194,7 +194,7 @@ public final class FormEdgeTest {
     }
 
     private static void methodThere() {
-        DUE.sentence("its METHOD there");
+        DUE.sentence("its LOCAL, METHOD, ARRAY there (the instruction)", "METHOD");
         for (int count = 1; count <= 8; count++) {
             for (int m : new int[] {0, count - 1, count, count + 1, 128, 255}) {
                 int[] file = some(count, Files.method(0, 0, Files.code(184, m, 191)));
@@ -204,7 +204,7 @@ public final class FormEdgeTest {
     }
 
     private static void arrayThere() {
-        DUE.sentence("its ARRAY there");
+        DUE.sentence("its LOCAL, METHOD, ARRAY there (the instruction)", "ARRAY");
         for (int kind : OF_ARRAYS) {
             for (int a : new int[] {0, 1, 2, 3, 4, 5, 128, 255}) {
                 load(kind + " " + a, a < 4 ? -1 : 6, Files.file(Files.method(0, 0, Files.code(191, kind, a))));
@@ -223,7 +223,7 @@ public final class FormEdgeTest {
     }
 
     private static void handlerFrom() {
-        DUE.sentence("FROM and AT are beginnings of instructions: FROM");
+        DUE.sentence("FROM and AT are beginnings of instructions", "FROM");
         for (int from = 0; from <= 7; from++) {
             load("FROM " + from, begins(from) ? -1 : 14, handled(from, 8, 7, 0));
         }
@@ -246,7 +246,7 @@ public final class FormEdgeTest {
     }
 
     private static void handlerAt() {
-        DUE.sentence("FROM and AT are beginnings of instructions: AT");
+        DUE.sentence("FROM and AT are beginnings of instructions", "AT");
         for (int at = 1; at <= 9; at++) {
             // AT 2 and 6 have the depth 1 as they have by going on; 5 has 2 by going on and is not right by its stack
             int place = !begins(at) ? 14 : at == 5 ? 10 : -1;
@@ -290,7 +290,7 @@ public final class FormEdgeTest {
     }
 
     private static void jumpsFar() {
-        DUE.sentence("j, a byte with its sign; j k two bytes with their sign");
+        DUE.sentence("168 j k: likewise, j k two bytes with their sign", "and j, a byte with its sign");
         int[] pairs = Files.times(60, 17, 0, 0);
         for (int kind : JUMPS) {
             int size = kind == 168 ? 3 : 2;
@@ -318,7 +318,7 @@ public final class FormEdgeTest {
     }
 
     private static void jumpsTold() {
-        DUE.sentence("(the jump): the first of them");
+        DUE.sentence("then its jumps, each to the beginning of an instruction (the jump)", "the first of them");
         int[] code = {191, 167, 1, 167, 1};
         load("both", 6, Files.file(Files.method(0, 0, code)));
         load("the second", 8, Files.file(Files.method(0, 0, Files.code(191, 167, 2, 167, 1))));

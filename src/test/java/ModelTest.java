@@ -124,7 +124,8 @@ public final class ModelTest {
         switch (chance.nextInt(9)) {
             case 0, 1 -> {
                 int kind = KINDS[chance.nextInt(KINDS.length)];
-                int v = chance.nextInt(3) == 0 ? 0 : chance.nextInt(4) == 0 ? chance.nextInt(1003) - 1 : chance.nextInt(9);
+                int v = chance.nextInt(3) == 0 ? 0
+                    : chance.nextInt(4) == 0 ? chance.nextInt(1003) - 1 : chance.nextInt(9);
                 is("price", x.price(kind, v), y.price(kind, v));
             }
             case 2, 3 -> rewrite();

@@ -184,7 +184,7 @@ public final class RefusedTest {
     }
 
     private static void methods() {
-        DUE.sentence("BAD: no such m");
+        DUE.sentence("BAD: no such m or what", "m");
         for (int n = 1; n <= 8; n++) {
             int[][] all = new int[n][];
             java.util.Arrays.fill(all, Files.method(0, 0, Files.code(191, 172), Files.handler(0, 1, 1, 0)));
@@ -203,7 +203,7 @@ public final class RefusedTest {
     }
 
     private static void whats() {
-        DUE.sentence("BAD: no such what");
+        DUE.sentence("BAD: no such m or what", "what");
         StepRewriter x = used();
         for (int what : new int[] {LOW, -2, -1, 0, 1, 2, 3, 4, 5, 6, 7, HIGH}) {
             for (boolean written : BOTH) {
@@ -237,7 +237,7 @@ public final class RefusedTest {
     }
 
     private static void handlers() {
-        DUE.sentence("HANDLER k: STATE; BAD");
+        DUE.sentence("HANDLER k: what = 0 FROM, 1 TO, 2 AT, 3 KIND. STATE; BAD.", "k");
         for (int n = 0; n <= 8; n++) {
             int[][] all = new int[n][];
             for (int k = 0; k < n; k++) {
@@ -255,7 +255,7 @@ public final class RefusedTest {
     }
 
     private static void blocks() {
-        DUE.sentence("BLOCK k of METHOD m, by places. STATE: no FILE; BAD");
+        DUE.sentence("BLOCK k of METHOD m, by places");
         for (int n : new int[] {1, 2, 1999, 2000}) {
             StepRewriter x = Files.loaded(Files.file(Files.method(0, 0, Files.times(n, 191))));
             DUE.is("how many", x.told(0, false, 1), n);
@@ -265,6 +265,7 @@ public final class RefusedTest {
                 DUE.is("its SUM", x.block(0, k, 1), right ? 1 : BAD);
             }
         }
+        DUE.sentence("STATE: no FILE; BAD.", "block");
         StepRewriter x = new StepRewriter();
         DUE.is("no FILE", x.block(0, 0, 0), STATE);
         DUE.is("a FILE that is not REWRITTEN", Files.loaded(file()).block(0, 0, 0), 0);
@@ -284,7 +285,7 @@ public final class RefusedTest {
     }
 
     private static void order() {
-        DUE.sentence("STATE comes before BAD");
+        DUE.sentence("STATE: there is none such; BAD: no such m or what", "STATE comes first");
         StepRewriter x = new StepRewriter();
         for (int turn = 0; turn < 2; turn++) {
             for (boolean written : BOTH) {
@@ -302,7 +303,8 @@ public final class RefusedTest {
     }
 
     private static void nothingChanges() {
-        DUE.sentence("what is refused changes nothing");
+        DUE.sentence("Nothing is promised beyond the answers and state changes described above",
+            "what is refused changes nothing");
         StepRewriter x = used();
         Look before = Look.at(x);
         DUE.is("feed", x.feed(1, 0), BAD);
@@ -330,7 +332,7 @@ public final class RefusedTest {
     }
 
     private static void unwriteKeeps() {
-        DUE.sentence("in place of the one there was, as if it were loaded (What is REWRITTEN stays.)");
+        DUE.sentence("(What is REWRITTEN stays.)");
         StepRewriter x = used();
         Look before = Look.at(x);
         DUE.is("unwrite", x.unwrite(), 11);
@@ -352,7 +354,7 @@ public final class RefusedTest {
     }
 
     private static void unwriteAgain() {
-        DUE.sentence("What is REWRITTEN becomes a FILE again: each time");
+        DUE.sentence("What is REWRITTEN becomes a FILE again, in place of the one there was", "each time");
         // 0: 168 to 5, 3: 191, 4: 191, 5: 16 5, 7: 172, which becomes a byte shorter
         int[] longer = Files.method(0, 0, Files.code(168, 0, 5, 191, 191, 16, 5, 172));
         StepRewriter x = Files.rewritten(Files.file(longer, longer));
@@ -376,7 +378,7 @@ public final class RefusedTest {
     }
 
     private static void unwriteState() {
-        DUE.sentence("unwrite(): STATE: nothing is REWRITTEN");
+        DUE.sentence("STATE: nothing is REWRITTEN.", "unwrite");
         StepRewriter x = new StepRewriter();
         DUE.is("no FILE", x.unwrite(), STATE);
         Files.load(x, file());

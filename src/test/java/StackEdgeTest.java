@@ -62,7 +62,7 @@ public final class StackEdgeTest {
     }
 
     private static void endsAndThrows() {
-        DUE.sentence("172 the method ends with the top; 191 KIND 4 is thrown");
+        DUE.sentence("it is not right if it takes more than there are", "172 and 191");
         load("172 with none", 0, method(172));
         load("172 with one", -1, method(16, 0, 172));
         load("172 with two", -1, method(16, 0, 16, 0, 172));
@@ -164,7 +164,8 @@ public final class StackEdgeTest {
     }
 
     private static void anotherDepthBack() {
-        DUE.sentence("a place to which it goes on, that was gone on from before");
+        DUE.sentence("a place to which it goes on has that depth, or, if it has another one, is not right",
+            "that was gone on from before");
         int[] back = {167, 168};
         for (int kind : back) {
             for (int pushed = 0; pushed <= 2; pushed++) {
@@ -242,7 +243,7 @@ public final class StackEdgeTest {
     }
 
     private static void notComeTo() {
-        DUE.sentence("a place that has no depth is right");
+        DUE.sentence("the least place that has a depth", "one that has none is right");
         load("too few", -1, method(191, 87, 96, 172));
         load("too many", -1, method(Files.join(Files.code(191), Files.times(21, 16, 0))));
         load("another depth", -1, method(16, 0, 191, 16, 0, 167, 251));

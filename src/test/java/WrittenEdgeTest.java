@@ -209,7 +209,7 @@ public final class WrittenEdgeTest {
     }
 
     private static void forwardFits() {
-        DUE.sentence("is as it was if its way fits, else the opposite one over a 168 behind it: forward");
+        DUE.sentence("153 to 158 is as it was if its way fits, else the opposite one", "forward");
         for (int kind = 153; kind <= 158; kind++) {
             for (int way = 125; way <= 127; way++) {
                 int[] code = Files.join(Files.code(16, 1, kind, way), filler(way - 2), Files.code(191));
@@ -224,7 +224,7 @@ public final class WrittenEdgeTest {
                 DUE.is(what + ", unwritten", x.byteAt(0, false, 3), way);
             }
         }
-        DUE.sentence("A 167 or 168 is 167 if its way fits, else 168: forward");
+        DUE.sentence("A 167 or 168 is 167 if its way fits, else 168", "forward");
         for (int way = 125; way <= 127; way++) {
             boolean fits = way + 1 <= 127;
             int[] rest = Files.join(filler(way - 2), Files.code(191));
@@ -241,7 +241,7 @@ public final class WrittenEdgeTest {
     }
 
     private static void backwardFits() {
-        DUE.sentence("is as it was if its way fits, else the opposite one over a 168 behind it: back");
+        DUE.sentence("153 to 158 is as it was if its way fits, else the opposite one", "back");
         for (int kind = 153; kind <= 158; kind++) {
             for (int way = 126; way <= 128; way++) {
                 int[] code = Files.join(filler(way - 2), Files.code(16, 1, kind, -way, 191));
@@ -254,7 +254,7 @@ public final class WrittenEdgeTest {
                 longs(what, x, fits ? 0 : 1, 0);
             }
         }
-        DUE.sentence("A 167 or 168 is 167 if its way fits, else 168: back");
+        DUE.sentence("A 167 or 168 is 167 if its way fits, else 168", "back");
         for (int way = 126; way <= 128; way++) {
             boolean fits = -way - 1 >= -128;
             StepRewriter x = cheap(Files.join(filler(way), Files.code(167, -way)));
@@ -269,7 +269,7 @@ public final class WrittenEdgeTest {
     }
 
     private static void ownPaymentIsNoWay() {
-        DUE.sentence("to the place of this instruction and j (its own 202 stands ahead of it)");
+        DUE.sentence("to the place of this instruction and j", "its own 202 stands ahead of it");
         for (int way = 126; way <= 128; way++) {
             // 0: 191, 1: 168 to 1 + way, by a 202 of its own; as short it has a byte less
             int[] code = Files.join(Files.code(191, 168, 0, way), Files.times(way - 3, 0), Files.code(191));
@@ -341,7 +341,7 @@ public final class WrittenEdgeTest {
         int[][] handlers = {{0, 1, 6, 0}, {1, 3, 10, 1}, {3, 5, 6, 2}, {5, 6, 10, 3}, {6, 8, 10, 4}, {8, 9, 6, 0},
             {9, 10, 10, 1}, {10, 11, 6, 2}};
         int[] places = {0, 1, 3, 5, 6, 8, 9, 10, 11};
-        DUE.sentence("FROM, TO, AT become the places of what stood there, without 202s");
+        DUE.sentence("FROM, TO, AT become the places of what stood there", "without 202s");
         moved(code, handlers, places, new int[] {0, 1, 3, 6, 7, 10, 11, 12, 13}, new int[] {});
         DUE.sentence("(of a BLOCK's beginning its 202's, if it has one; of another 188 its 203's; the end the end)");
         moved(code, handlers, places, new int[] {0, 6, 8, 11, 12, 20, 21, 27, 28}, new int[] {0, 188});
@@ -369,7 +369,7 @@ public final class WrittenEdgeTest {
     }
 
     private static void greatestLength() {
-        DUE.sentence("how many bytes of CODE (2, 1 .. 2000): as REWRITTEN and unwritten");
+        DUE.sentence("how many bytes of CODE (2, 1 .. 2000)", "as REWRITTEN and unwritten");
         for (int n = 1998; n <= 2000; n++) {
             // 0: 168 to the last, 3: 0s, three 172s (the third one is AT), the last: 191
             int[] code = Files.join(Files.code(168, n - 1 >> 8, n - 1 & 255), Files.times(n - 7, 0),
@@ -495,7 +495,7 @@ public final class WrittenEdgeTest {
     }
 
     private static void unwriteMakesShort() {
-        DUE.sentence("unwrite(): What is REWRITTEN becomes a FILE again, without 202, 203");
+        DUE.sentence("without 202, 203, its jumps short where they fit");
         int[] handler = {6, 10, 12, 3};
         for (int kind = 153; kind <= 158; kind++) {
             // 0: 21 0, 2: to 129, 4: 16 1, 6: 188 2, 8: 0s, 12: 0s (AT), 129: 191
