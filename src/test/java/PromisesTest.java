@@ -13,6 +13,7 @@ public final class PromisesTest {
     public static void main(String[] args) {
         feedTellsHowMany();
         loadTellsHowMany();
+        fewerMethods();
         priceCountsFromRewrite();
         rewriteTellsBytes();
         toldOfEach();
@@ -76,6 +77,31 @@ public final class PromisesTest {
             DUE.is("its BLOCKS", x.told(m, false, 1), 1);
             DUE.is("its HANDLERS", x.told(m, false, 2), 0);
             DUE.is("its 168s", x.told(m, false, 4), 0);
+        }
+    }
+
+    private static void fewerMethods() {
+        DUE.sentence("is a FILE (and nothing is REWRITTEN): how many METHODS", "fewer than before");
+        int[] big = Files.method(0, 0, Files.times(600, 16, 1, 172));
+        int[] small = Files.method(0, 0, Files.code(16, 5, 172));
+        int[] other = Files.method(0, 0, Files.join(Files.code(168, 1, 47), Files.times(300, 87), Files.code(191)));
+        // its last bytes lie where METHODS 1 and 2 were, and would not be right as theirs
+        int[] one = Files.method(0, 0, Files.join(Files.code(16, 5, 172), Files.times(1900, 87)));
+        StepRewriter x = new StepRewriter();
+        for (int turn = 0; turn < 3; turn++) {
+            x.price(172, 0);
+            x.price(16, 0);
+            DUE.is("load of three", Files.load(x, Files.file(small, big, other)), 3);
+            DUE.is("rewrite of three", x.rewrite(), 3 + 1800 + 304 + 3 * 5);
+            DUE.is("unwrite of three", x.unwrite(), 3 + 1800 + 304);
+            x.price(172, 1);
+            x.price(16, 1);
+            for (int again = 0; again < 4; again++) {
+                DUE.is("load of one", Files.load(x, Files.file(again < 2 ? small : one)), 1);
+                DUE.is("rewrite of one", x.rewrite(), again < 2 ? 8 : 8 + 1905);
+                DUE.is("its METHOD 1", x.told(1, true, 0), StepRewriter.BAD);
+                DUE.is("unwrite of one", x.unwrite(), again < 2 ? 3 : 3 + 1900);
+            }
         }
     }
 
